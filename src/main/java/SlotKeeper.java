@@ -839,6 +839,7 @@ public final class SlotKeeper {
         private final Board board;
         private final Timetable table;
         private final int[] rank = new int[MOST_CRAFT];
+        private final int[] craftOfRank = new int[MOST_CRAFT];
         /** BEST, if the latest search had one. */
         final int[] found = new int[MOST_CRAFT];
         private int by;
@@ -865,13 +866,16 @@ public final class SlotKeeper {
                 cost = table.costWith(cost, by, craft, slot);
                 used |= 1 << craft;
             }
-            goDeeper(frozen, used, cost);
+            if (!isAnyOverdue(frozen, used)) {
+                goDeeper(frozen, used, cost);
+            }
             return leastCost == HOPELESS ? NONE : leastCost;
         }
 
         private void begin() {
             for (int craft = 0; craft < board.craftCount; craft++) {
                 rank[craft] = board.rankOf(craft);
+                craftOfRank[rank[craft]] = craft;
             }
             table.begin();
         }
@@ -886,8 +890,9 @@ public final class SlotKeeper {
                 System.arraycopy(table.craftAt, 0, found, 0, MOST_CRAFT);
                 return;
             }
+            int pressed = pressedAt(place, used);
             for (int craft = 0; craft < board.craftCount; craft++) {
-                if (isIn(used, craft) || !isNear(craft, place)) {
+                if (isIn(used, craft) || !isNear(craft, place, pressed)) {
                     continue;
                 }
                 int slot = table.put(place, craft);
@@ -905,7 +910,7 @@ public final class SlotKeeper {
                     continue;
                 }
                 int soonest = table.soonest(place, craft);
-                if (isOverdue(craft, place) || soonest > board.latest[craft]) {
+                if (soonest > board.latest[craft]) {
                     return HOPELESS;
                 }
                 least = table.costWith(least, by, craft, soonest);
@@ -913,14 +918,32 @@ public final class SlotKeeper {
             return least;
         }
 
-        private boolean isNear(int craft, int place) {
+        /** Where one is pressed, no other one counts as near. */
+        private boolean isNear(int craft, int place, int pressed) {
+            if (pressed != NONE) {
+                return craft == pressed;
+            }
             int away = place - rank[craft];
             return away <= board.shift && -away <= board.shift;
         }
 
-        /** One that is not used yet can't come near its RANK any more. */
-        private boolean isOverdue(int craft, int place) {
-            return place - rank[craft] > board.shift;
+        /** FROZEN ones may have kept another one from all places near its RANK. */
+        private boolean isAnyOverdue(int place, int used) {
+            for (int craft = 0; craft < board.craftCount; craft++) {
+                if (!isIn(used, craft) && place - rank[craft] > board.shift) {
+                    return true;
+                }
+            }
+            return false;
+        }
+
+        /** The one for which this is the last place near its RANK: who goes on without it goes in vain. */
+        private int pressedAt(int place, int used) {
+            int itsRank = place - board.shift;
+            if (itsRank < 0 || itsRank >= board.craftCount || isIn(used, craftOfRank[itsRank])) {
+                return NONE;
+            }
+            return craftOfRank[itsRank];
         }
 
         int countOrders(int frozen, boolean onlyHolding) {
@@ -934,7 +957,7 @@ public final class SlotKeeper {
                 }
                 used |= 1 << craft;
             }
-            return countDeeper(frozen, used);
+            return isAnyOverdue(frozen, used) ? 0 : countDeeper(frozen, used);
         }
 
         private boolean mayStand(int place, int craft) {
@@ -945,14 +968,10 @@ public final class SlotKeeper {
             if (place >= board.craftCount || place >= MOST_CRAFT) {
                 return 1;
             }
+            int pressed = pressedAt(place, used);
             int orders = 0;
             for (int craft = 0; craft < board.craftCount; craft++) {
-                if (!isIn(used, craft) && isOverdue(craft, place)) {
-                    return 0;
-                }
-            }
-            for (int craft = 0; craft < board.craftCount; craft++) {
-                if (!isIn(used, craft) && isNear(craft, place) && mayStand(place, craft)) {
+                if (!isIn(used, craft) && isNear(craft, place, pressed) && mayStand(place, craft)) {
                     orders += countDeeper(place + 1, used | 1 << craft);
                 }
             }

@@ -23,7 +23,7 @@ public final class PlainKeeper {
     }
   }
 
-  record Done(int sort, int slot, int wait) {}
+  record Done(int sort, int slot, int waited) {}
 
   record Span(int a, int b) {}
 
@@ -660,7 +660,7 @@ public final class PlainKeeper {
   public int done(int i, int what) {
     nse(i >= 0 && i < s.done.size() && in(what, 0, 2));
     Done d = s.done.get(s.done.size() - 1 - i);
-    return what == 0 ? d.sort : what == 1 ? d.slot : d.wait;
+    return what == 0 ? d.sort : what == 1 ? d.slot : d.waited;
   }
 
   public int hole(int sort, int from) {
