@@ -264,6 +264,11 @@ public final class PromisesTest {
     k.change(2, 1, 15);
     due("count(9)", k.count(9), 0);
     k.change(2, 1, 100);
+    k.close(10, 11);
+    k.change(0, 1, 10);
+    due("count(9): the first one is late", k.count(9), 0);
+    k.undo();
+    k.undo();
     // ALLOWED: no more than SHIFT away, FROZEN ones are not asked
     k.tell(201);
     due("count(10)", k.count(10), 1);
@@ -366,6 +371,11 @@ public final class PromisesTest {
     k.close(11, 13);
     due("craft(0, 6)", k.craft(0, 6), 13);
     due("craft(0, 12)", k.craft(0, 12), -3);
+    SlotKeeper s = three();
+    s.close(10, 11);
+    due("craft(0, 6)", s.craft(0, 6), 11);
+    due("craft(0, 12)", s.craft(0, 12), -3);
+    due("craft(1, 12)", s.craft(1, 12), 0);
     // a CLOSED span counts ahead of one that is DONE
     k.part(0, 2, 3);
     due("craft(0, 12)", k.craft(0, 12), -3);
@@ -446,6 +456,14 @@ public final class PromisesTest {
     due("craft(1, 0)", k.craft(1, 0), 1);
     due("craft(1, 11)", k.craft(1, 11), 1);
     due("craft(0, 6)", k.craft(0, 6), 15);
+    int[] left = {1, 12, 100, 1};
+    for (int i = 0; i < 4; i++) due("craft(1, " + i + ")", k.craft(1, i), left[i]);
+    k.come(3, 20, 30, 7);
+    k.go(0);
+    int[] last = {3, 20, 30, 7};
+    for (int i = 0; i < 4; i++) due("craft(1, " + i + ")", k.craft(1, i), last[i]);
+    k.undo();
+    k.undo();
     nse("go(2)", () -> k.go(2));
     nse("go(-1)", () -> k.go(-1));
     due("go(1)", k.go(1), 1);
@@ -468,9 +486,11 @@ public final class PromisesTest {
     due("change LATEST", k.change(0, 1, 0), 1999);
     due("change WEIGHT", k.change(0, 2, 20), 2);
     due("craft(0, 3)", k.craft(0, 3), 20);
-    due("count(7)", k.count(7), 5);
+    due("change WEIGHT", k.change(0, 2, 0), 20);
+    due("change WEIGHT", k.change(0, 2, 20), 0);
+    due("count(7)", k.count(7), 7);
     due("as it was is an ACT", k.change(0, 2, 20), 20);
-    due("count(7)", k.count(7), 6);
+    due("count(7)", k.count(7), 8);
     nse("no such CRAFT", () -> k.change(3, 0, -1));
     nse("another what", () -> k.change(0, 3, -1));
     nse("another what", () -> k.change(0, -1, 0));
@@ -480,7 +500,7 @@ public final class PromisesTest {
     iae("LATEST 2000", () -> k.change(1, 1, 2000));
     iae("WEIGHT 21", () -> k.change(1, 2, 21));
     iae("WEIGHT -1", () -> k.change(1, 2, -1));
-    due("count(7)", k.count(7), 6);
+    due("count(7)", k.count(7), 8);
   }
 
   private static void parting() {
@@ -564,6 +584,9 @@ public final class PromisesTest {
     SlotKeeper k = three();
     // as it is BEST is 1 0 2: 10; 0 around by 5: READY 15, BEST 1 2 0: 10, 13, 16: 0 + 1 + 2
     due("loss(0, 5)", k.loss(0, 5), -7);
+    // by 1: READY 11, BEST 1 0 2: 10, 13, 16: 0 + 4 + 4; by 99: READY 109, BEST 1 2 0
+    due("loss(0, 1)", k.loss(0, 1), -2);
+    due("loss(0, 99)", k.loss(0, 99), -9);
     due("loss(2, 5): it leaves", k.loss(2, 5), -1000000);
     nse("loss(3, 0)", () -> k.loss(3, 0));
     iae("loss(0, 0)", () -> k.loss(0, 0));
@@ -596,6 +619,47 @@ public final class PromisesTest {
     return (x[0] >>> 16 & 0x7fff) % n;
   }
 
+  private static SlotKeeper ruled(int seed) {
+    SlotKeeper k = new SlotKeeper();
+    for (int i = 0; i < 64; i++) k.part(i / 8, i % 8, (i * 37 + seed * 11) % 17);
+    k.rule(false, seed % 4);
+    k.rule(true, seed * 5 % 13);
+    k.close(20, 26);
+    k.close(40, 41);
+    return k;
+  }
+
+  /** A DAY by the other calls: WAITS times WEIGHTS, the latest SLOT, the greatest WAIT. */
+  private static int[] dayByHand(int seed, int n, int way, int ruledBy) {
+    SlotKeeper k = ruled(ruledBy);
+    int[] x = {seed};
+    int[] all = new int[3];
+    int ready = 0;
+    for (int i = 0; i < n; i++) {
+      int sort = draw(x, 8);
+      ready += draw(x, 10);
+      int weight = draw(x, 4) + 1;
+      if (ready > k.count(1)) goOnCounting(k, ready, all);
+      if (k.count(0) == 10) goOnCounting(k, k.craft(k.planned(0), 6), all);
+      int craft = k.come(sort, ready, 1999, weight);
+      if (way == 1) k.plan(0);
+      if (way == 2) k.putIn(craft);
+      if (way == 3) k.trade();
+    }
+    goOnCounting(k, 1999, all);
+    return all;
+  }
+
+  private static void goOnCounting(SlotKeeper k, int t, int[] all) {
+    for (int c = 0; c < k.count(0); c++) {
+      if (k.craft(c, 6) > t) continue;
+      all[0] += k.craft(c, 7) * k.craft(c, 3);
+      all[1] = Math.max(all[1], k.craft(c, 6));
+      all[2] = Math.max(all[2], k.craft(c, 7));
+    }
+    k.goOn(t);
+  }
+
   private static void days() {
     SlotKeeper k = new SlotKeeper();
     int[] x = {77};
@@ -621,6 +685,12 @@ public final class PromisesTest {
     due("count(1)", k.count(1), 40);
     due("count(5)", k.count(5), 1);
     due("count(7)", k.count(7), acts);
+    for (int seed = 0; seed < 12; seed++)
+      for (int way = 0; way < 4; way++) {
+        int[] all = dayByHand(seed * 7919, 18, way, seed);
+        SlotKeeper same = ruled(seed);
+        for (int w = 0; w < 3; w++) due("day(" + seed * 7919 + ", 18, " + way + ", " + w + ")", same.day(seed * 7919, 18, way, w), all[w]);
+      }
     iae("n 0", () -> k.day(1, 0, 0, 0));
     iae("n 41", () -> k.day(1, 41, 0, 0));
     iae("way -1", () -> k.day(1, 1, -1, 3));
@@ -664,6 +734,15 @@ public final class PromisesTest {
     iae("best(3)", () -> k.best(3));
     iae("best(-1)", () -> k.best(-1));
     due("best of nobody", new SlotKeeper().best(2), 0);
+    // FROZEN ones' WAITS count, too, and they may be as late as LATEST
+    SlotKeeper z = three();
+    z.close(0, 13);
+    z.change(0, 1, 13);
+    z.rule(true, 16);
+    due("count(4): 13 and 16", z.count(4), 2);
+    due("best(0)", z.best(0), 3 * 2 + 6 * 5 + 7);
+    due("best(1)", z.best(1), 19);
+    due("best(2)", z.best(2), 7);
     // a FROZEN one that is late: no ORDER HOLDS
     SlotKeeper f = new SlotKeeper();
     f.come(0, 1, 1, 1);
@@ -708,6 +787,17 @@ public final class PromisesTest {
     due("ways(false), 2 FROZEN", k.ways(false), 0);
     k.rule(false, 1);
     due("ways(false), 2 FROZEN, SHIFT 1", k.ways(false), 1);
+    // a FROZEN one that is late
+    k.rule(true, 0);
+    k.tell(12);
+    k.rule(true, 10);
+    k.change(0, 1, 10);
+    due("ways(true), 0 FROZEN at its LATEST", k.ways(true), 1);
+    k.close(10, 11);
+    due("ways(true), 0 isn't FROZEN any more, and late", k.ways(true), 0);
+    k.rule(true, 11);
+    due("ways(true), 0 FROZEN and late", k.ways(true), 0);
+    due("ways(false), 0 FROZEN and late", k.ways(false), 2);
     due("ways(false) of ten, SHIFT 1", tenWays(1), 89);
     due("ways(false) of ten, SHIFT 2", tenWays(2), 2177);
     due("ways(false) of ten, SHIFT 3", tenWays(3), 19708);
@@ -874,6 +964,11 @@ public final class PromisesTest {
     due("trade()", b.trade(), 1);
     due("trade()", b.trade(), -1);
     plan("trades", b, "210");
+    SlotKeeper c = many(4, 5);
+    c.change(1, 2, 20);
+    c.change(3, 2, 2);
+    due("trade(): the greater gain comes first", c.trade(), 0);
+    plan("trade()", c, "1023");
     due("equal is not less", many(5, 5).trade(), -1);
     due("nobody", new SlotKeeper().trade(), -1);
   }
@@ -885,6 +980,14 @@ public final class PromisesTest {
     plan("around(1, 5)", k, "021");
     due("around(2, 5): it leaves", k.around(2, 5), -1);
     due("count(7)", k.count(7), 1);
+    due("around(0, 1)", k.around(0, 1), 11);
+    plan("around(0, 1)", k, "210");
+    k.undo();
+    for (int s = 0; s < 8; s++) {
+      SlotKeeper one = new SlotKeeper();
+      one.come(s, 5, 9, 1);
+      due("around of SORT " + s, one.around(0, 99), s % 2 == 0 ? 104 : -1);
+    }
     nse("around(3, 0)", () -> k.around(3, 0));
     nse("around(-1, 0)", () -> k.around(-1, 0));
     iae("around(0, 0)", () -> k.around(0, 0));
@@ -894,7 +997,9 @@ public final class PromisesTest {
     k.close(0, 50);
     due("around(0, 99)", k.around(0, 99), 149);
     due("craft(0, 2)", k.craft(0, 2), 149);
-    due("craft(0, 11): HURRIED stays", k.craft(0, 11), 0);
+    k.hurry(0, 1);
+    k.around(0, 1);
+    due("craft(0, 11): HURRIED stays", k.craft(0, 11), 1);
     // 999 and 1999 at most
     SlotKeeper e = new SlotKeeper();
     e.come(6, 990, 1950, 1);
@@ -932,6 +1037,17 @@ public final class PromisesTest {
     due("craft(0, 12)", n.craft(0, 12), -2);
   }
 
+  /** 21 were DONE: SORT i MOD 8, SLOT 100 + 4 i, READY i. */
+  private static SlotKeeper twentyOne() {
+    SlotKeeper r = new SlotKeeper();
+    for (int i = 0; i < 21; i++) {
+      r.goOn(100 + 4 * i);
+      r.come(i % 8, i, 1999, 1);
+      r.goOn(100 + 4 * i);
+    }
+    return r;
+  }
+
   private static void dones() {
     SlotKeeper k = three();
     k.goOn(16);
@@ -941,6 +1057,14 @@ public final class PromisesTest {
     nse("done(-1, 0)", () -> k.done(-1, 0));
     nse("done(0, 3)", () -> k.done(0, 3));
     nse("done(0, -1)", () -> k.done(0, -1));
+    SlotKeeper r = twentyOne();
+    due("count(5)", r.count(5), 20);
+    for (int i = 0; i < 20; i++) {
+      due("done(" + i + ", 0)", r.done(i, 0), (20 - i) % 8);
+      due("done(" + i + ", 1)", r.done(i, 1), 100 + 4 * (20 - i));
+      due("done(" + i + ", 2)", r.done(i, 2), 100 + 3 * (20 - i));
+    }
+    nse("done(20, 0)", () -> r.done(20, 0));
     // the latest 20; those beyond hold nobody any more
     SlotKeeper m = new SlotKeeper();
     m.part(0, 1, 99);
@@ -986,6 +1110,13 @@ public final class PromisesTest {
     k.goOn(1999);
     k.come(0, 0, 1999, 1);
     due("hole(0, 1999): none any more", k.hole(0, 1999), -1);
+    SlotKeeper d = new SlotKeeper();
+    d.part(0, 4, 50);
+    d.come(0, 10, 10, 1);
+    d.goOn(10);
+    due("hole(4, 0): one is DONE", d.hole(4, 0), 60);
+    d.come(0, 55, 55, 1);
+    due("hole(4, 0): ahead of one and behind it", d.hole(4, 0), 105);
     nse("hole(8, -1)", () -> k.hole(8, -1));
     nse("hole(-1, 0)", () -> k.hole(-1, 0));
     iae("hole(0, -1)", () -> k.hole(0, -1));
@@ -998,6 +1129,15 @@ public final class PromisesTest {
     // WAITS 0, 3, 4, 9
     int[][] all = {{4, 16, 9}, {1, 0, 0}, {1, 4, 4}, {2, 12, 9}, {0, 0, 0}};
     for (int s = -1; s < 4; s++) for (int w = 0; w < 3; w++) due("sorted(" + s + ", " + w + ")", k.sorted(s, w), all[s + 1][w]);
+    k.close(10, 11);
+    // WAITS 1, 4, 5, 10: the first one waits, too
+    int[][] later = {{4, 20, 10}, {1, 1, 1}};
+    for (int s = -1; s < 1; s++) for (int w = 0; w < 3; w++) due("sorted(" + s + ", " + w + ")", k.sorted(s, w), later[s + 1][w]);
+    SlotKeeper fresh = three();
+    fresh.close(10, 30);
+    due("sorted(-1, 2): THE PLAN as it is now", fresh.sorted(-1, 2), 24);
+    fresh.undo();
+    due("sorted(0, 2)", fresh.sorted(0, 2), 0);
     nse("sorted(8, 0)", () -> k.sorted(8, 0));
     nse("sorted(-2, 0)", () -> k.sorted(-2, 0));
     nse("sorted(0, 3)", () -> k.sorted(0, 3));
@@ -1045,6 +1185,15 @@ public final class PromisesTest {
       due("undo()", k.undo(), 0);
       text("what is to be seen after one more undoing", look(k), before);
     }
+    // those DONE are the same 20 again, though the first one was forgotten meanwhile
+    SlotKeeper r = twentyOne();
+    String all = look(r);
+    r.come(7, 500, 500, 1);
+    r.goOn(600);
+    due("done(0, 0)", r.done(0, 0), 7);
+    r.undo();
+    r.undo();
+    text("what is to be seen of those DONE", look(r), all);
     // the latest 16 are kept
     SlotKeeper m = new SlotKeeper();
     for (int i = 0; i < 40; i++) m.rule(true, i);
