@@ -235,6 +235,17 @@ public final class PromisesTest {
     fault(ten, 0, -1);
     fault(ten + "craft lands0 0 9 1;", 3, ten.length());
     fault(ten + "shift 9;craft", 2, ten.length() + 6);
+    for (String word : new String[] {"xhift 1;", "shifx 1;", "rreeze 1;", "hlosed 1 2;", "xap lands 0 lands 0 1;", "kraft lands 0 1 2 3;"}) fault(word, 1, 0);
+    fault("gap xands 0 lands 0 1;", 1, 4);
+    fault("gap lands 0 xeaves 0 1;", 1, 12);
+    // what stands on the tape behind the first n is not of the TEXT
+    SlotKeeper cut = new SlotKeeper();
+    feed(cut, "freeze 999;");
+    due("board(9)", cut.board(9), 1);
+    due("fault()", cut.fault(), 9);
+    feed(cut, "shifty 1;");
+    due("board(5)", cut.board(5), 1);
+    due("fault()", cut.fault(), 5);
     // the latest board() counts, but for one that threw
     SlotKeeper k = new SlotKeeper();
     read(k, "x");
