@@ -27,6 +27,8 @@ public final class SlotKeeper {
     private static final int BY_LONGEST = 2;
 
     private static final int NO_LOSS = -1000000;
+    /** Dearer than any ORDER. */
+    private static final int HOPELESS = 2147483647;
 
     private final Runway live;
     /** Where "were it so" is tried out, so that no question can disturb the live BOARD. */
@@ -834,8 +836,6 @@ public final class SlotKeeper {
 
     /** Goes through all ORDERS that are ALLOWED, by numbers of CRAFT along them. */
     private static final class Search {
-        private static final int HOPELESS = Integer.MAX_VALUE;
-
         private final Board board;
         private final Timetable table;
         private final int[] rank = new int[MOST_CRAFT];
@@ -1049,7 +1049,7 @@ public final class SlotKeeper {
                 return NONE;
             }
             int bestPlace = NONE;
-            int least = Integer.MAX_VALUE;
+            int least = HOPELESS;
             for (int place = frozen; place < board.craftCount; place++) {
                 tryPlace(at, place);
                 int cost = table.lay(tried).cost(BY_WAITS);

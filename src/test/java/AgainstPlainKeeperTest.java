@@ -9,7 +9,7 @@ import java.util.Random;
 
 /** Long rows of drawn calls, each answered by SlotKeeper and by PlainKeeper: both must say the same. */
 public final class AgainstPlainKeeperTest {
-  private static final int RUNS = 320;
+  private static final int RUNS = 200;
   private static final int CALLS = 256;
 
   private static final String[] NAMES = {

@@ -647,6 +647,19 @@ public final class BoundaryBoardTest extends Sentences {
     due("count(7)", k.count(7), 12);
   }
 
+  static void p10_it_isnt_hurried_whoever_had_its_number() {
+    SlotKeeper k = alike(2, 5);
+    k.hurry(1, 1);
+    k.go(1);
+    k.come(0, 5, 9, 1);
+    due("craft(1, 11)", k.craft(1, 11), 0);
+    k.hurry(0, 1);
+    k.hurry(1, 1);
+    k.goOn(100);
+    k.come(0, 5, 9, 1);
+    due("craft(0, 11)", k.craft(0, 11), 0);
+  }
+
   // "NoSuchElementException: no such CRAFT."
   static void p11_no_such_craft_is_refused() {
     for (int c : new int[] {-1, 4, MIN, MAX}) refusedNse("go(" + c + ")", RICH, k -> k.go(c));
@@ -664,6 +677,23 @@ public final class BoundaryBoardTest extends Sentences {
       same("THE PLAN, " + c + " gone", plan(k), plans[c]);
       for (int i = 0; i < 3; i++) due("craft(" + i + ", 1), " + c + " gone", k.craft(i, 1), readys[c][i]);
       for (int i = 0; i < 3; i++) due("craft(" + i + ", 11), " + c + " gone", k.craft(i, 11), c != 2 && i == (c < 2 ? 1 : 2) ? 1 : 0);
+    }
+  }
+
+  static void p11_all_of_those_behind_it_goes_with_them() {
+    for (int c = 0; c < 4; c++) {
+      SlotKeeper k = new SlotKeeper();
+      for (int i = 0; i < 4; i++) {
+        k.come(i, 10 + i, 20 + i, i);
+        k.hurry(i, i % 2);
+      }
+      k.go(c);
+      for (int left = 0; left < 3; left++) {
+        int was = left < c ? left : left + 1;
+        int[] all = {was, 10 + was, 20 + was, was};
+        for (int i = 0; i < 4; i++) due("craft(" + left + ", " + i + "), " + c + " gone", k.craft(left, i), all[i]);
+        due("craft(" + left + ", 11), " + c + " gone", k.craft(left, 11), was % 2);
+      }
     }
   }
 
@@ -874,10 +904,14 @@ public final class BoundaryBoardTest extends Sentences {
   // "(those behind it have numbers less by 1): how many are left"
   static void p17_those_behind_it_have_numbers_less_by_1() {
     int[] from = {40, 60, 80, 1500};
+    int[] to = {42, 61, 90, 1600};
     for (int i = 0; i < 4; i++) {
       SlotKeeper k = FULL.make();
       due("open(" + i + ")", k.open(i), 3);
-      for (int j = 0; j < 3; j++) due("closed(" + j + ", false), " + i + " open", k.closed(j, false), from[j < i ? j : j + 1]);
+      for (int j = 0; j < 3; j++) {
+        due("closed(" + j + ", false), " + i + " open", k.closed(j, false), from[j < i ? j : j + 1]);
+        due("closed(" + j + ", true), " + i + " open", k.closed(j, true), to[j < i ? j : j + 1]);
+      }
       nse("closed(3, true)", k, x -> x.closed(3, true));
     }
   }

@@ -58,6 +58,30 @@ public final class BoundaryOrderTest extends Sentences {
     due("loss(0, 9): it comes behind 18 by RANK, then at 21", k.loss(0, 9), 2);
   }
 
+  static void p18_frozen_then_are_those_of_the_plan_then() {
+    SlotKeeper k = alike(2, 10);
+    k.rule(true, 10);
+    // 0 FROZEN: 10 and 13; then 1 is FROZEN at 10, and 0, READY 11, at 13
+    due("loss(0, 1)", k.loss(0, 1), 2 - 3);
+    k.rule(true, 9);
+    due("loss(0, 1), nobody FROZEN: 1 at 10 and 0 at 13", k.loss(0, 1), 2 - 3);
+    k.rule(true, 13);
+    due("loss(1, 1), both FROZEN: 10 and 14", k.loss(1, 1), 0 - 3);
+  }
+
+  static void p18_ready_999_and_latest_1999_at_most() {
+    SlotKeeper k = new SlotKeeper();
+    k.come(0, 999, 1999, 7);
+    due("loss(0, 99): READY is 999 then", k.loss(0, 99), 0);
+    k.close(999, 1100);
+    due("loss(0, 99): at 1100 as it is and then", k.loss(0, 99), 0);
+    k.change(0, 0, 990);
+    due("loss(0, 99): at 990 as it is, READY 999 then and at 1100", k.loss(0, 99), 101 * 7);
+    k.open(0);
+    k.close(990, 1100);
+    due("loss(0, 99): READY 990 waits 110, 999 waits 101", k.loss(0, 99), -9 * 7);
+  }
+
   static void p18_nothing_changes() {
     for (int d : new int[] {1, 50, 99}) {
       onlyAsks("loss(0, " + d + ")", RICH, k -> k.loss(0, d));
@@ -181,6 +205,111 @@ public final class BoundaryOrderTest extends Sentences {
     for (int i = 0; i < 12; i++) due("day(5, 20, " + i / 3 + ", " + i % 3 + ")", k.day(5, 20, i / 3, i % 3), before[i]);
   }
 
+  /** GAPS, a span, SHIFT, FREEZE of their own for each seed, the same on both. */
+  private static void rule(SlotKeeper k, PlainKeeper p, int seed, int least, int most) {
+    for (int i = 0; i < 64; i++) {
+      int gap = least + (i * 37 + seed * 11) % (most - least + 1);
+      k.part(i / 8, i % 8, gap);
+      p.part(i / 8, i % 8, gap);
+    }
+    k.rule(false, seed % 2 + 1);
+    p.rule(false, seed % 2 + 1);
+    k.rule(true, seed * 5 % 13);
+    p.rule(true, seed * 5 % 13);
+    k.close(20 + seed, 26 + seed);
+    p.close(20 + seed, 26 + seed);
+  }
+
+  // "way 0: nothing more; 1: THE PLAN becomes BEST by COST 0; 2: the one that came is PUT IN; 3: one TRADE at most"
+  static void p19_each_way_does_what_is_told() {
+    boolean[] differ = new boolean[16];
+    for (int seed = 0; seed < 6; seed++) {
+      SlotKeeper k = new SlotKeeper();
+      PlainKeeper p = new PlainKeeper();
+      rule(k, p, seed, 0, 14);
+      for (int way = 0; way < 4; way++) {
+        for (int w = 0; w < 3; w++) due("day(" + seed + ", 14, " + way + ", " + w + ")", k.day(seed, 14, way, w), p.day(seed, 14, way, w));
+        for (int other = 0; other < way; other++) differ[4 * way + other] |= k.day(seed, 14, way, 0) != k.day(seed, 14, other, 0);
+      }
+    }
+    for (int way = 0; way < 4; way++) for (int other = 0; other < way; other++) check(differ[4 * way + other], "ways " + way + " and " + other + " differ");
+  }
+
+  static void p19_each_way_with_ten_there_and_beyond_1999() {
+    for (int seed = 1; seed < 4; seed += 2) {
+      SlotKeeper k = new SlotKeeper();
+      PlainKeeper p = new PlainKeeper();
+      rule(k, p, seed, 40, 99);
+      k.rule(false, 1);
+      p.rule(false, 1);
+      for (int way = 0; way < 4; way++)
+        for (int n : new int[] {12, 18, 40}) due("day(" + seed + ", " + n + ", " + way + ", 0)", k.day(seed, n, way, 0), p.day(seed, n, way, 0));
+      check(k.day(seed, 40, 1, 1) > 1999, "it goes beyond 1999");
+    }
+  }
+
+  /** Drawn rules by which many have the same SLOT, and time is often beyond READY of the one that comes. */
+  private static void crowd(SlotKeeper k, PlainKeeper p, int drawn) {
+    java.util.Random r = new java.util.Random(drawn);
+    int[] gaps = {0, 0, r.nextInt(6), r.nextInt(40), r.nextInt(100)};
+    for (int i = 0; i < 64; i++) {
+      int gap = gaps[r.nextInt(5)];
+      k.part(i / 8, i % 8, gap);
+      p.part(i / 8, i % 8, gap);
+    }
+    int freeze = r.nextInt(20);
+    int shift = 1 + r.nextInt(2);
+    k.rule(true, freeze);
+    p.rule(true, freeze);
+    k.rule(false, shift);
+    p.rule(false, shift);
+    for (int i = r.nextInt(4); i > 0; i--) {
+      int from = r.nextInt(100);
+      int to = from + 1 + r.nextInt(60);
+      k.close(from, to);
+      p.close(from, to);
+    }
+  }
+
+  // "time GOES ON to its READY (if that is later than NOW)": not back, and nobody at NOW is DONE by staying there
+  static void p19_time_goes_on_only_to_a_later_ready() {
+    // READY the same as NOW tells by these
+    for (int drawn : new int[] {4, 96, 120, 393})
+      for (int n : new int[] {15, 25, 40}) alikeInACrowd(drawn, n, 3);
+    // READY sooner than NOW tells by these
+    for (int drawn : new int[] {1, 5, 9, 16, 17, 24})
+      for (int n : new int[] {15, 25, 40}) alikeInACrowd(drawn, n, 2);
+  }
+
+  private static void alikeInACrowd(int drawn, int n, int way) {
+    SlotKeeper k = new SlotKeeper();
+    PlainKeeper p = new PlainKeeper();
+    crowd(k, p, drawn);
+    for (int w = 0; w < 3; w++) due("day(" + drawn + ", " + n + ", " + way + ", " + w + ")", k.day(drawn, n, way, w), p.day(drawn, n, way, w));
+  }
+
+  static void p19_gaps_of_0() {
+    for (int seed = 0; seed < 12; seed++) {
+      SlotKeeper k = new SlotKeeper();
+      PlainKeeper p = new PlainKeeper();
+      rule(k, p, seed, 0, seed % 3);
+      k.close(0, 30);
+      p.close(0, 30);
+      for (int way = 0; way < 4; way++) due("day(" + seed + ", 25, " + way + ", 0)", k.day(seed, 25, way, 0), p.day(seed, 25, way, 0));
+    }
+  }
+
+  static void p19_one_day_doesnt_count_for_the_next() {
+    SlotKeeper k = gapsOf(9);
+    for (int w = 0; w < 3; w++) {
+      check(k.day(3, 40, 0, w) > k.day(3, 2, 0, w), "a long DAY has more");
+      k.day(3, 40, 1, w);
+      due("day(3, 2, 0, " + w + ")", k.day(3, 2, 0, w), plainDay(3, 2, 9)[w]);
+      k.day(3, 40, 1, w);
+      due("day(3, 1, 0, " + w + ")", k.day(3, 1, 0, w), plainDay(3, 1, 9)[w]);
+    }
+  }
+
   static void p19_nothing_changes() {
     for (int way = 0; way < 4; way++) {
       int w = way;
@@ -268,6 +397,44 @@ public final class BoundaryOrderTest extends Sentences {
     k.rule(true, 70);
     due("count(4): 2 and 3", k.count(4), 2);
     for (int cost = 0; cost < 3; cost++) due("best(" + cost + "): 0 is 2 away", k.best(cost), -1);
+  }
+
+  static void p20_now_and_those_done_hold_all_back() {
+    SlotKeeper k = alike(2, 10);
+    k.change(1, 2, 5);
+    k.goOn(9);
+    due("best(0), NOW 9", k.best(0), 3);
+    k.rule(false, 0);
+    k.goOn(10);
+    due("count(0): 0 is DONE at 10", k.count(0), 1);
+    due("best(0): 1 is at 13", k.best(0), 15);
+    due("best(1)", k.best(1), 13);
+    k.part(0, 0, 99);
+    due("best(1), GAP 99", k.best(1), 109);
+    k.part(0, 0, 0);
+    k.goOn(10);
+    k.come(0, 2, 50, 1);
+    due("count(0)", k.count(0), 1);
+    k.close(10, 30);
+    k.goOn(20);
+    due("best(1): 30 is open", k.best(1), 30);
+    k.open(0);
+    due("best(1): NOW 20", k.best(1), 20);
+    due("best(2): READY 2", k.best(2), 18);
+    k.change(0, 1, 19);
+    due("best(2): it is late by NOW", k.best(2), -1);
+  }
+
+  static void p20_one_that_a_span_makes_late_leaves_no_best() {
+    SlotKeeper k = alike(2, 10);
+    k.close(12, 20);
+    due("best(1): 10 and 20", k.best(1), 20);
+    k.change(1, 1, 19);
+    due("best(0): 1 is first", k.best(0), 10);
+    k.change(0, 1, 19);
+    for (int cost = 0; cost < 3; cost++) due("best(" + cost + "): one of both is late", k.best(cost), -1);
+    k.change(0, 1, 20);
+    due("best(0)", k.best(0), 10);
   }
 
   static void p20_asking_changes_nothing() {
@@ -387,6 +554,41 @@ public final class BoundaryOrderTest extends Sentences {
     due("ways(false), 0 FROZEN and late", k.ways(false), 1);
     onlyAsks("ways(true)", FULL, x -> x.ways(true));
     onlyAsks("ways(false)", RICH, x -> x.ways(false));
+  }
+
+  static void p22_none_where_frozen_ones_leave_no_place_to_another() {
+    SlotKeeper k = told("shift 1;freeze 0;craft lands 0 100 999 1;craft lands 0 110 999 1;craft lands 0 120 999 1;craft lands 0 130 999 1;");
+    k.tell(2301);
+    k.goOn(60);
+    k.rule(true, 60);
+    due("ways(false), 2 FROZEN", k.ways(false), 1);
+    due("ways(true), 2 FROZEN", k.ways(true), 1);
+    k.rule(true, 70);
+    due("ways(false), 2 and 3 FROZEN: 0 is 2 away", k.ways(false), 0);
+    due("ways(true), 2 and 3 FROZEN: 0 is 2 away", k.ways(true), 0);
+    k.rule(false, 2);
+    due("ways(false), SHIFT 2: 0 may be at 2 alone", k.ways(false), 1);
+    k.rule(true, 99);
+    k.rule(false, 0);
+    due("ways(false), all FROZEN", k.ways(false), 1);
+  }
+
+  static void p22_now_those_done_and_spans_are_asked() {
+    SlotKeeper k = alike(3, 10);
+    k.change(1, 1, 13);
+    k.change(2, 1, 16);
+    due("ways(true): 1 may not be last", k.ways(true), 4);
+    k.goOn(10);
+    due("ways(true), 0 DONE at 10: 13 and 16", k.ways(true), 1);
+    k.close(13, 14);
+    due("ways(true), 13 is CLOSED", k.ways(true), 0);
+    due("ways(false)", k.ways(false), 2);
+    SlotKeeper n = alike(2, 10);
+    n.change(0, 1, 12);
+    n.goOn(9);
+    due("ways(true), NOW 9", n.ways(true), 1);
+    n.close(9, 13);
+    due("ways(true), CLOSED till 13", n.ways(true), 0);
   }
 
   // "WORTH of a SHIFT k (0 to 3) by COST 0; .. IllegalArgumentException: another k."
@@ -523,6 +725,8 @@ public final class BoundaryOrderTest extends Sentences {
     for (long order : new long[] {-1, -12, -102, -210, Long.MIN_VALUE}) noOrder(Sentences::three, order);
     for (long order : new long[] {-123456789L, -9876543210L}) noOrder(FULL, order);
     noOrder(EMPTY, -1);
+    noOrder(() -> alike(1, 4), -1);
+    for (long order : new long[] {-1, -10, -2}) noOrder(() -> alike(2, 4), order);
   }
 
   static void p26_a_long_doesnt_become_an_int() {

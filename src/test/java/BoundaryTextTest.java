@@ -302,6 +302,18 @@ public final class BoundaryTextTest extends Sentences {
     fault("z;", 1, 0);
   }
 
+  static void p03_each_letter_of_a_word_counts() {
+    String[] texts = {"shift 1;", "freeze 1;", "closed 1 2;", "gap lands 0 leaves 0 1;", "craft leaves 0 1 2 3;"};
+    for (String text : texts) {
+      fine(text);
+      int start = 0;
+      for (int i = 0; i < text.length(); i++) {
+        if (text.charAt(i) < 'a') start = i + 1;
+        else fault(text.substring(0, i) + 'q' + text.substring(i + 1), 1, start);
+      }
+    }
+  }
+
   // "NUMBERS (the longest row of figures)"
   static void p03_numbers_are_the_longest_row() {
     SlotKeeper k = told("closed12 13;freeze 0;");

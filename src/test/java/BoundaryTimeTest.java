@@ -391,6 +391,22 @@ public final class BoundaryTimeTest extends Sentences {
     due("sorted(-1, 0) of ten", FULL.make().sorted(-1, 0), 10);
   }
 
+  static void p34_the_first_ones_wait_counts_as_it_is_now() {
+    SlotKeeper k = three();
+    k.close(10, 30);
+    due("sorted(0, 2)", k.sorted(0, 2), 20);
+    k.close(30, 31);
+    due("sorted(0, 1)", k.sorted(0, 1), 21);
+    k.undo();
+    k.undo();
+    due("sorted(0, 2)", k.sorted(0, 2), 0);
+    k.goOn(9);
+    k.come(4, 0, 99, 1);
+    k.tell(3012);
+    due("sorted(-1, 2): the first one waits longest", k.sorted(-1, 2), 9);
+    due("sorted(4, 2)", k.sorted(4, 2), 9);
+  }
+
   static void p34_those_done_dont_count() {
     SlotKeeper k = three();
     k.goOn(13);

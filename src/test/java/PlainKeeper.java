@@ -523,9 +523,12 @@ public final class PlainKeeper {
       Craft c = new Craft(sort, ready, 1999, weight);
       t.craft.add(c);
       t.plan.add(c);
-      if (way == 1 && t.best(0) != null) t.plan = t.best(0);
-      if (way == 2 && t.placeOfPutIn(c) >= 0) t.plan = t.putAt(c, t.placeOfPutIn(c));
-      if (way == 3 && t.placeOfTrade() >= 0) Collections.swap(t.plan, t.placeOfTrade(), t.placeOfTrade() + 1);
+      List<Craft> best = way == 1 ? t.best(0) : null;
+      if (best != null) t.plan = best;
+      int place = way == 2 ? t.placeOfPutIn(c) : -1;
+      if (place >= 0) t.plan = t.putAt(c, place);
+      int couple = way == 3 ? t.placeOfTrade() : -1;
+      if (couple >= 0) Collections.swap(t.plan, couple, couple + 1);
     }
     onTo(t, 1000000, all, slots);
     int sum = 0, end = 0, longest = 0;
@@ -574,7 +577,8 @@ public final class PlainKeeper {
     iae(in(k, 0, 3));
     State t = s.copy();
     t.shift = k;
-    return t.best(0) == null ? -1 : t.cost(t.best(0), 0);
+    List<Craft> best = t.best(0);
+    return best == null ? -1 : t.cost(best, 0);
   }
 
   public int plan(int cost) {
