@@ -1245,7 +1245,8 @@ public final class SlotKeeper {
 
         private int draw(int n) {
             drawn = drawn * 1103515245 + 12345;
-            return (drawn >>> 16 & 32767) % n;
+            int bits = drawn >>> 16 & 32767;
+            return n > 0 ? bits % n : 0;
         }
 
         private void arrange(int way) {
